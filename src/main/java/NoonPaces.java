@@ -23,12 +23,12 @@ public final class NoonPaces {
 
   public NoonPaces() {
     tape = new Tape();
-    now = new Town();
+    seer = new Seer();
+    now = seer.now;
     past = new Past();
     images = new Town[] {new Town(), new Town()};
     sheets = new Sheet[] {new Sheet(), new Sheet(), new Sheet(), new Sheet()};
     walk = new Walk();
-    seer = new Seer(now);
   }
 
   // ---- 1 what is told
@@ -345,7 +345,8 @@ public final class NoonPaces {
 
     boolean readTown() {
       place = 0;
-      read.clear();
+      // nothing ever happens in the town that is read, so its noons, deeds and walks are none
+      read.people = 0;
       return readLaw() && readRows() && readPeople();
     }
 
@@ -471,15 +472,6 @@ public final class NoonPaces {
     final int[] entered = new int[CROWD];
     final int[] done = new int[CROWD * DEEDS];
 
-    void clear() {
-      columns = 0;
-      rows = 0;
-      people = 0;
-      noons = 0;
-      for (int k = 0; k < CROWD; k++) entered[k] = 0;
-      for (int k = 0; k < CROWD * DEEDS; k++) done[k] = 0;
-    }
-
     void become(Town other) {
       columns = other.columns;
       rows = other.rows;
@@ -584,21 +576,18 @@ public final class NoonPaces {
       left = kind == CHILD ? owed / 2 : owed;
       length = 0;
       end = town.at[one];
+      boolean old = isUnder(kind, ELDER);
       for (int k = 0; k < EDGE; k++) {
         int next = town.beside(end, toward);
         if (next < 0 || town.standing(next) != NONE) return;
         int ground = town.ground[next];
-        if (stops(kind, ground) || COSTS[ground] > left) return;
+        if (ground == WALL || old && (ground == WATER || ground == HILL)) return;
+        if (COSTS[ground] > left) return;
         left -= COSTS[ground];
         path[k] = next;
         length = k + 1;
         end = next;
       }
-    }
-
-    private static boolean stops(int kind, int ground) {
-      if (ground == WALL) return true;
-      return (ground == WATER || ground == HILL) && isUnder(kind, ELDER);
     }
 
     /** Whether its cells, all of them, are the n items from i on. */
@@ -685,11 +674,11 @@ public final class NoonPaces {
     }
   }
 
-  /** Foretells on towns of its own, so that the town stays as it is. */
+  /** Foretells what becomes of the town, on towns beside it, so that it stays as it is. */
   private static final class Seer {
     private static final int WALKS = SIDES * DEEDS, PLAYED = 5, ALL_ORDERS = 720, FAR = 1000000;
 
-    private final Town now;
+    final Town now = new Town();
     private final Town trial = new Town();
     private final Walk walk = new Walk();
     private final Town[] played = new Town[PLAYED];
@@ -698,8 +687,7 @@ public final class NoonPaces {
     private final int[] landings = new int[CELLS * WALKS];
     private final int[] tolls = new int[CELLS];
 
-    Seer(Town town) {
-      now = town;
+    Seer() {
       for (int k = 0; k < PLAYED; k++) played[k] = new Town();
     }
 
@@ -761,13 +749,17 @@ public final class NoonPaces {
       trial.become(now);
       for (int cell = 0; cell < CELLS; cell++) {
         boolean free = now.inside(cell) && now.ground[cell] != WALL
-            && (now.standing(cell) == NONE || now.at[one] == cell);
-        trial.at[one] = free ? cell : now.at[one];
+            && (now.standing(cell) == NONE || now.standing(cell) == one);
         for (int k = 0; k < WALKS; k++) {
-          walk.trace(trial, one, trial.kind[one], k / DEEDS, FINES[k % DEEDS]);
-          landings[cell * WALKS + k] = free ? walk.end : cell;
+          landings[cell * WALKS + k] = free ? landing(one, cell, k) : cell;
         }
       }
+    }
+
+    private int landing(int one, int from, int k) {
+      trial.at[one] = from;
+      walk.trace(trial, one, trial.kind[one], k / DEEDS, FINES[k % DEEDS]);
+      return walk.end;
     }
 
     /** The least that leads from each cell to the goal: shortened until nothing gets shorter. */
@@ -868,14 +860,16 @@ public final class NoonPaces {
       long plain = troddenBehind(NONE, NONE);
       if (!isIn(plain, cell)) return what == 0 ? 0 : NONE;
       for (int a = 0; a < CELLS; a++) {
-        if (isIn(plain, a) && guards(cell, a, NONE)) return wallsTold(what, a, NONE);
+        if (!isIn(plain, a) || !mayBeBuilt(a, cell)) continue;
+        if (!isIn(troddenBehind(a, NONE), cell)) return wallsTold(what, a, NONE);
       }
       for (int a = 0; a < CELLS; a++) {
         if (!mayBeBuilt(a, cell)) continue;
         // a wall where nobody enters without it bars nobody, so others need no trial
         long trodden = troddenBehind(a, NONE);
         for (int b = a + 1; b < CELLS; b++) {
-          if (isIn(trodden, b) && guards(cell, a, b)) return wallsTold(what, a, b);
+          if (!isIn(trodden, b) || !mayBeBuilt(b, cell)) continue;
+          if (!isIn(troddenBehind(a, b), cell)) return wallsTold(what, a, b);
         }
       }
       return NONE;
@@ -892,11 +886,6 @@ public final class NoonPaces {
 
     private boolean mayBeBuilt(int wall, int cell) {
       return wall != cell && now.inside(wall) && now.ground[wall] == STREET && now.standing(wall) == NONE;
-    }
-
-    private boolean guards(int cell, int a, int b) {
-      if (!mayBeBuilt(a, cell) || b != NONE && !mayBeBuilt(b, cell)) return false;
-      return !isIn(troddenBehind(a, b), cell);
     }
 
     private long troddenBehind(int a, int b) {

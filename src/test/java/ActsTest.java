@@ -45,6 +45,9 @@ public final class ActsTest {
     CHECK.due("8 enough for it", x.noon(), 3);
     CHECK.due("8 through it", x.person(0, 1), 5);
     walks("lcf;.~^+...;p00w0;", 0, 0, 0, 3);
+    x = walks("lcf;.++.;p00w6;", 2, 2, 0, 3);
+    CHECK.due("8 the first door", x.cell(1), 0);
+    CHECK.due("8 the last door", x.cell(2), 0);
   }
 
   private static void stops() {
@@ -98,6 +101,11 @@ public final class ActsTest {
     x = Check.in("lcf;.+./.../...;p00w3;p22s9;");
     CHECK.due("8 two", x.noon(), 3);
     CHECK.due("8 all entered", x.count(5), 3);
+    x = Check.in("lco;....;p00w1;p10n5;p30e9;");
+    x.noon();
+    Check.read(x, "lco;....;p30e2;");
+    CHECK.due("8 none of the town before", x.noon(), 2);
+    CHECK.due("8 none of the town before", x.count(5), 2);
     CHECK.due("8 without a town", new NoonPaces().noon(), NoonPaces.NOT);
   }
 

@@ -174,6 +174,9 @@ public final class ForetoldTest {
     CHECK.due("22 who owes", x.order(0), 1);
     CHECK.due("22 who owes", x.order(1), 2);
     CHECK.due("22 who owes", x.order(2), NoonPaces.NONE);
+    // each walks once, though by OVER some still owe behind it
+    x = Check.in("lco;.....;p20w9;p10w9;p40w0;");
+    CHECK.due("22 once each", x.order(-1), 2);
     x = Check.in("lcf;....;p00w0;");
     CHECK.due("22 nobody", x.order(-1), 0);
     CHECK.due("22 nobody", x.order(0), NoonPaces.NONE);
@@ -208,6 +211,8 @@ public final class ForetoldTest {
     isGuard("lcf;...../...../.....;p01w9;p41e9;p20n9;", 10, none, none, none);
     // the first to come bars the rest: a wall in his way lets the next one in
     isGuard("lcf;..../..../....;p00w2;p22s9;", 2, 2, 1, 10);
+    // a wall holds the first one back where he stands, and so the second one off
+    isGuard("lcf;........;p10e9;p70e9;", 1, 1, 0, none);
     NoonPaces x = Check.in("lcf;.....;p00w9;");
     CHECK.due("23 beyond", x.guard(5, 0), NoonPaces.BAD);
     CHECK.due("23 beyond", x.guard(-1, 0), NoonPaces.BAD);
@@ -235,8 +240,13 @@ public final class ForetoldTest {
     CHECK.due("24 court", x.meet(0, 1, 1), 2);
     CHECK.due("24 changes nothing", x.cell(8), 4);
     x = Check.in("lcf;.+....../#######.;p00n0;p20n0;");
-    CHECK.due("24 through the door", x.meet(0, 1, 1), 6);
+    CHECK.due("24 to the door", x.meet(0, 1, 1), 6);
     CHECK.due("24 changes nothing", x.cell(1), 4);
+    // a lie stops him just on the door; any other deed would take him too far
+    CHECK.due("24 by a lie", Check.in("lcf;+++/.+.;p01n0;p00n0;").meet(0, 1, 1), 2);
+    // with doors that fall shut again these would be 3, both
+    CHECK.due("24 doors stay open", Check.in("lcf;.+./..+;c00n0;c01n0;").meet(0, 1, 2), 2);
+    CHECK.due("24 doors stay open", Check.in("lcf;...+./.....;p40n0;c21n0;").meet(0, 1, 2), 4);
   }
 
   private static void law() {
@@ -306,6 +316,7 @@ public final class ForetoldTest {
       CHECK.due("27 cells in " + n, x.drawn(n, 1, 0), cells[n]);
       CHECK.due("27 there behind " + n, x.drawn(n, 1, 1), there[n]);
     }
+    CHECK.due("27 most noons, greatest seed", x.drawn(40, 999999, 0) >= 0 ? 1 : 0, 1);
     CHECK.due("27 changes nothing", x.person(0, 1), 5);
     CHECK.due("27 changes nothing", x.person(0, 5), 0);
     CHECK.due("27 n", x.drawn(41, 1, 0), NoonPaces.BAD);

@@ -144,6 +144,10 @@ public final class SheetsTest {
     CHECK.due("32 bytes", x.film(1, 3, 1, 0, 0), 3);
     CHECK.due("32 bytes", x.due(1, 1, 0, 0, 3), 6);
     CHECK.due("32 a child", x.film(1, 4, 0, 2, 0), 4);
+    // the first one's third to sixth cells are there still
+    x.item(0, 2, 2, 1);
+    x.item(0, 2, 3, 2);
+    CHECK.due("32 no more than n", x.due(0, 0, 2, 2, 6), 6);
     CHECK.due("32 a child", x.film(1, 5, 0, 2, 0), NoonPaces.NOT);
     CHECK.due("32 no such one", x.film(3, 1, 0, 2, 0), BAD);
     CHECK.due("32 no such one", x.film(-1, 1, 3, 2, 0), BAD);

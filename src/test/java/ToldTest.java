@@ -150,6 +150,8 @@ public final class ToldTest {
     x.look(0, 0);
     CHECK.due("3 fault", Check.read(x, "lto;#;p00"), -107);
     CHECK.due("3 fault: tape", x.count(7), 0);
+    CHECK.due("3 no byte of the tape before", Check.read(x, "lto;.;p00n1"), -111);
+    CHECK.due("3 no byte of the tape before", Check.read(x, "lto;.;p00n"), -110);
     CHECK.due("3 fault: people", x.count(0), 1);
     CHECK.due("3 fault: columns", x.count(1), 4);
     CHECK.due("3 fault: court", x.count(8), 0);
