@@ -101,9 +101,9 @@ public final class ActsTest {
     x = Check.in("lcf;.+./.../...;p00w3;p22s9;");
     CHECK.due("8 two", x.noon(), 3);
     CHECK.due("8 all entered", x.count(5), 3);
-    x = Check.in("lco;....;p00w1;p10n5;p30e9;");
+    x = Check.in("lco;....;p00w0;p10w5;p30e9;");
     x.noon();
-    Check.read(x, "lco;....;p30e2;");
+    Check.read(x, "lco;..../....;p31e2;");
     CHECK.due("8 none of the town before", x.noon(), 2);
     CHECK.due("8 none of the town before", x.count(5), 2);
     CHECK.due("8 without a town", new NoonPaces().noon(), NoonPaces.NOT);

@@ -174,9 +174,10 @@ public final class ForetoldTest {
     CHECK.due("22 who owes", x.order(0), 1);
     CHECK.due("22 who owes", x.order(1), 2);
     CHECK.due("22 who owes", x.order(2), NoonPaces.NONE);
-    // each walks once, though by OVER some still owe behind it
-    x = Check.in("lco;.....;p20w9;p10w9;p40w0;");
-    CHECK.due("22 once each", x.order(-1), 2);
+    // each walks once, though by OVER the first one still owes behind it
+    x = Check.in("lco;.....;p10w9;p20w9;");
+    CHECK.due("22 once each", x.order(-1), 4);
+    CHECK.due("22 once each", x.order(0), 1);
     x = Check.in("lcf;....;p00w0;");
     CHECK.due("22 nobody", x.order(-1), 0);
     CHECK.due("22 nobody", x.order(0), NoonPaces.NONE);
