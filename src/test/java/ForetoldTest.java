@@ -245,7 +245,7 @@ public final class ForetoldTest {
     CHECK.due("24 changes nothing", x.cell(1), 4);
     // a lie stops him just on the door; any other deed would take him too far
     CHECK.due("24 by a lie", Check.in("lcf;+++/.+.;p01n0;p00n0;").meet(0, 1, 1), 2);
-    // with doors that fall shut again these would be 3, both
+    // found by a search, not by hand: with doors that fall shut again these would be 3, both
     CHECK.due("24 doors stay open", Check.in("lcf;.+./..+;c00n0;c01n0;").meet(0, 1, 2), 2);
     CHECK.due("24 doors stay open", Check.in("lcf;...+./.....;p40n0;c21n0;").meet(0, 1, 2), 4);
   }
