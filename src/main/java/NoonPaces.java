@@ -910,17 +910,18 @@ public final class NoonPaces {
 
     int meeting(int one, int other, int n) {
       played[0].become(now);
-      return play(0, 2 * n, one, other);
+      return play(this, 0, 2 * n, one, other);
     }
 
-    private int play(int turn, int turns, int one, int other) {
-      Town here = played[turn];
+    private static int play(Seer seer, int turn, int turns, int one, int other) {
+      Town here = seer.played[turn];
       if (turn >= turns || turn + 1 >= PLAYED) return apart(here.at[one], here.at[other]);
-      Town then = played[turn + 1];
+      Town then = seer.played[turn + 1];
+      Walk walk = seer.walk;
       boolean near = turn % 2 == 0;
       int mover = near ? one : other;
       then.become(here);
-      int best = play(turn + 1, turns, one, other);
+      int best = play(seer, turn + 1, turns, one, other);
       int looks = here.court == 1 ? 1 : SIDES;
       for (int side = 0; side < looks; side++) {
         int gone = 0;
@@ -931,7 +932,7 @@ public final class NoonPaces {
           gone = walk.length;
           then.become(here);
           then.follow(mover, walk);
-          int value = play(turn + 1, turns, one, other);
+          int value = play(seer, turn + 1, turns, one, other);
           best = near ? Math.min(best, value) : Math.max(best, value);
         }
       }

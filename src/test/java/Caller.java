@@ -23,6 +23,14 @@ final class Caller {
     return call.substring(0, call.indexOf(':'));
   }
 
+  /** How many numbers a call takes. */
+  static int numbersOf(String name) {
+    for (String call : FACE) {
+      if (nameOf(call).equals(name)) return call.length() - name.length() - 1;
+    }
+    throw new IllegalArgumentException(name);
+  }
+
   long[] numbersFor(String call, int wildness) {
     String types = call.substring(call.indexOf(':') + 1);
     long[] numbers = new long[types.length()];

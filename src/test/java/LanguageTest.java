@@ -6,7 +6,9 @@ import java.lang.reflect.Modifier;
 import java.nio.file.Files;
 import java.nio.file.Path;
 import java.util.List;
+import java.util.Map;
 import java.util.Set;
+import java.util.TreeMap;
 import java.util.TreeSet;
 import java.util.regex.Matcher;
 import java.util.regex.Pattern;
@@ -24,6 +26,7 @@ public final class LanguageTest {
     face();
     classes();
     text();
+    calls();
     CHECK.end();
   }
 
@@ -97,5 +100,48 @@ public final class LanguageTest {
       if (code.matches(" {2,4}[a-zA-Z].*\\) \\{")) start = k;
       if (code.matches(" {2,4}\\}")) is("11 short, to line " + (k + 1), start < 0 || k - start < 60);
     }
+  }
+
+  /** Which method names each one calls, by the text; methods of one name are taken together. */
+  private static Map<String, Set<String>> callsByText() throws IOException {
+    Map<String, Set<String>> calls = new TreeMap<>();
+    Pattern head = Pattern.compile(" {2,4}(?:(?:public|private|static) )*(?:int|long|boolean|void) (\\w+)\\(.*\\) \\{");
+    Pattern call = Pattern.compile("(?<!new )\\b([a-z]\\w*)\\(");
+    String in = null;
+    for (String line : Files.readAllLines(Path.of("src/main/java/NoonPaces.java"))) {
+      Matcher m = head.matcher(line);
+      if (m.matches()) {
+        in = m.group(1);
+        calls.putIfAbsent(in, new TreeSet<>());
+      } else if (line.matches(" {2,4}\\}")) {
+        in = null;
+      } else if (in != null) {
+        Matcher c = call.matcher(line.replaceAll("//.*", ""));
+        while (c.find()) calls.get(in).add(c.group(1));
+      }
+    }
+    return calls;
+  }
+
+  private static void calls() throws IOException {
+    Map<String, Set<String>> calls = callsByText();
+    is("the methods are found", calls.size() > 100);
+    for (String name : calls.keySet()) {
+      if (calls.get(name).contains(name)) is("8 who calls himself is static: " + name, name.equals("play"));
+      calls.get(name).remove(name);
+    }
+    for (String name : calls.keySet()) {
+      int depth = depth(calls, name, 0);
+      is("11 calls at most eight deep: " + name + " " + depth, depth <= 8);
+    }
+  }
+
+  /** How deep calls go from one on, itself counted; methods that call one another would go beyond any bound. */
+  private static int depth(Map<String, Set<String>> calls, String name, int above) {
+    int deepest = 0;
+    for (String next : calls.get(name)) {
+      if (calls.containsKey(next) && above < 20) deepest = Math.max(deepest, depth(calls, next, above + 1));
+    }
+    return deepest + 1;
   }
 }

@@ -3,9 +3,11 @@ import java.util.Arrays;
 /** All promises: random runs of calls, each answered by the class as by the model. */
 public final class ModelTest {
   private static final Check CHECK = new Check();
+  /** Behind so many calls there is room among the 512 for a town, a call, a film's marks, and all that is told at last. */
+  private static final int LAST = 512 - 120 - 27 - 130;
 
   public static void main(String[] args) {
-    int runs = args.length > 0 ? Integer.parseInt(args[0]) : 1500;
+    int runs = args.length > 0 ? Integer.parseInt(args[0]) : 3000;
     int start = args.length > 1 ? Integer.parseInt(args[1]) : 0;
     for (int run = start; run < start + runs; run++) run(run);
     for (int run = start; run < start + runs; run++) faults(run);
@@ -14,11 +16,11 @@ public final class ModelTest {
 
   private static void run(int seed) {
     Caller caller = new Caller(seed);
-    NoonPaces x = new NoonPaces();
+    Edges x = Edges.after(CHECK, "count 0 = 0");
     Model model = new Model();
     if (seed % 10 != 0) read(caller, x, model, caller.town(), seed);
     for (int sheet = 0; sheet < 3; sheet++) both(x, model, "sheet", new long[] {sheet, sheet, 8}, seed);
-    for (int k = 0; k < 300; k++) {
+    while (x.calls() < LAST) {
       if (caller.below(100) == 0) {
         String text = caller.town();
         read(caller, x, model, caller.below(3) == 0 ? caller.spoilt(text) : text, seed);
@@ -35,7 +37,7 @@ public final class ModelTest {
   }
 
   /** Who, due and sorts by what was filmed just now, and by one mark fewer. */
-  private static void marks(NoonPaces x, Model model, long[] film, int seed) {
+  private static void marks(Edges x, Model model, long[] film, int seed) {
     for (long n = film[1]; n >= film[1] - 1; n--) {
       both(x, model, "who", new long[] {film[2], film[3], film[4], n}, seed);
       for (int one = 0; one < 6; one++) {
@@ -45,20 +47,17 @@ public final class ModelTest {
     }
   }
 
-  private static void both(NoonPaces x, Model model, String name, long[] numbers, int seed) {
-    CHECK.due("run " + seed + ": " + name + Arrays.toString(numbers), Caller.call(x, name, numbers), model.call(name, numbers));
+  private static void both(Edges x, Model model, String name, long[] numbers, int seed) {
+    CHECK.due("run " + seed + ": " + name + Arrays.toString(numbers), x.call(name, numbers), model.call(name, numbers));
   }
 
-  private static void read(Caller caller, NoonPaces x, Model model, String text, int seed) {
+  private static void read(Caller caller, Edges x, Model model, String text, int seed) {
     for (int k = 0; k < text.length(); k++) both(x, model, "feed", new long[] {text.charAt(k)}, seed);
     both(x, model, "town", new long[0], seed);
   }
 
-  private static void all(NoonPaces x, Model model, int seed) {
-    for (int cell = -1; cell < 65; cell++) {
-      both(x, model, "cell", new long[] {cell}, seed);
-      both(x, model, "on", new long[] {cell}, seed);
-    }
+  private static void all(Edges x, Model model, int seed) {
+    for (int cell = 0; cell < 64; cell++) both(x, model, "cell", new long[] {cell}, seed);
     for (int one = 0; one < 6; one++) {
       for (int what = 0; what < 9; what++) both(x, model, "person", new long[] {one, what}, seed);
     }
