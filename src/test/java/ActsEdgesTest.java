@@ -294,7 +294,7 @@ public final class ActsEdgesTest {
         + "build 3 0 = 4, on 3 = 3, count 6 = 3");
     row("where one stood", "lcf;..;p00w1;", "build 0 1 = NOT, noon = 1, build 0 1 = 0, build 1 1 = NOT");
     row("up", town, "build 1 -1 = BAD, build 1 2 = BAD, build 1 max = BAD, build 1 min = BAD, cell 1 = 0, count 6 = 0");
-    for (String beyond : new String[] {"-1", "6", "7", "14", "16", "63", "64", "max", "min"}) {
+    for (String beyond : new String[] {"-1", "6", "7", "14", "16", "21", "24", "29", "56", "61", "63", "64", "max", "min"}) {
       row("a CELL is inside", town, "build " + beyond + " 0 = BAD, build " + beyond + " 1 = BAD, count 6 = 0");
     }
     row("BAD ahead of NOT", town, "build 2 2 = BAD, build 0 2 = BAD, build 0 -1 = BAD");

@@ -22,6 +22,7 @@ public final class ForetoldEdgesTest {
     law();
     odds();
     drawn();
+    cellsBeyond();
     CHECK.end();
   }
 
@@ -162,6 +163,9 @@ public final class ForetoldEdgesTest {
   private static void crimeByWays() {
     isCrime("over and over", "lcf;" + ROW8 + ";p00n0;", 1, "11", "30");
     isCrime("over and over", "lcf;" + ROW8 + ";p00n0;", 7, "8", "30");
+    isCrime("over and over, from WATER", "lcf;.~~~~;p00n0;", 3, "8", "30");
+    isCrime("over and over, from a HILL", "lcf;.^^^^;p00n0;", 3, "8", "30");
+    isCrime("over and over, from a DOOR", "lcf;.++..;p00n0;", 2, "6", "30");
     isCrime("he LOOKS anywhere", "lcf;....../#####./......;p00n0;", 16, "13", "31");
     isCrime("OWES just the 3 of that", "lcf;" + ROW8 + ";p00w99;", 3, "3", "30");
     row("OWES just the 3 of that", "lcf;" + ROW8 + ";p00w0;", "deed 0 0 = 3, deed 0 1 = 8, crime 0 3 0 = 3, crime 0 5 0 = 5, "
@@ -377,5 +381,15 @@ public final class ForetoldEdgesTest {
         + "drawn 40 999999 0 = 93, drawn 40 4242 1 = 0");
     row("40 NOONS, and 39", three, "drawn 39 1 0 = 147, drawn 39 1 1 = 0, drawn 40 1 0 = 157, drawn 40 1 1 = 1, drawn 40 999998 0 = 139, "
         + "drawn 39 4242 0 = 128, drawn 40 4242 0 = 133, drawn 40 999999 0 = 137");
+  }
+
+  private static void cellsBeyond() {
+    String town = "lcf;.../...;p00w9;";
+    row("a CELL is inside", town, "judge 0 10 = NONE, sides 0 10 = 0, crime 0 10 0 = 6, guard 10 0 = 0, odds 10 5 0 = 0");
+    for (String beyond : new String[] {"-1", "-8", "3", "7", "11", "15", "16", "18", "24", "26", "32", "56", "58", "63", "64", "72",
+      "max", "min"}) {
+      row("a CELL is beyond", town, "judge 0 " + beyond + " = BAD, sides 0 " + beyond + " = BAD, crime 0 " + beyond + " 0 = BAD, crime 0 " + beyond
+          + " 1 = BAD, guard " + beyond + " 0 = BAD, guard " + beyond + " 1 = BAD, odds " + beyond + " 5 0 = BAD, odds " + beyond + " 5 1 = BAD");
+    }
   }
 }

@@ -262,7 +262,8 @@ public final class ToldEdgesTest {
     String town = "lcf;..+/~..;p21n0;e00n0;";
     row("a CELL is inside", town, "cell 0 = 0, cell 2 = 4, cell 8 = 2, cell 10 = 0");
     row("a CELL is inside", town, "on 0 = 1, on 2 = NONE, on 8 = NONE, on 10 = 0");
-    for (String beyond : new String[] {"-1", "-8", "3", "7", "11", "15", "16", "18", "63", "64", "72", "max", "min"}) {
+    for (String beyond : new String[] {"-1", "-8", "3", "7", "11", "15", "16", "18", "24", "26", "32", "56",
+      "58", "63", "64", "72", "max", "min"}) {
       row("BAD", town, "cell " + beyond + " = BAD, on " + beyond + " = BAD");
     }
   }
